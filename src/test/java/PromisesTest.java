@@ -1,3 +1,5 @@
+import java.util.Arrays;
+
 /** Each promise of the document by hand: ordinary inputs, the edges that it names, wrong inputs. */
 public final class PromisesTest {
     private static final int BAD = -1, NOT = -2, FULL = -3, STATE = -5;
@@ -258,7 +260,7 @@ public final class PromisesTest {
             {"-------a", -106}, {"(-!(-!a))", 1}, {"(-!(-!(a)))", -106},
             {"a)", -101}, {"(a", -102}, {"()", -101}, {"(a?a)", -102}, {"(a;a)", -102}, {"a?a;n?n;1", 1}, {"a?(n)", 1},
             {"a-((((((1))))))", 1}, {"-a*-a", 1}, {"(((((-a)))))+((((((a))))))", 1}, {"a\u00e9", -101}, {"A", -100},
-            {"a%n/s*o", 1}, {"a==n", -102}, {"a<=n", -102}, {"0000", 1}, {"00000", -104}, {"d", 1}, {"h", 1},
+            {"a%n/s*o", 1}, {"a==n", -102}, {"a?((((((1))))))", 1}, {"a?n|s", 1}, {"1;a?n&s|o<h;2", 1}, {"a<=n", -102}, {"0000", 1}, {"00000", -104}, {"d", 1}, {"h", 1},
         };
         for (Object[] r : rows) {
             String text = (String) r[0];
@@ -525,6 +527,18 @@ public final class PromisesTest {
         due.is("15: -2", t.who(-2), BAD);
         due.is("15: 3", t.who(3), BAD);
         due.is("15: greatest", t.who(MAX), BAD);
+        TemperInHive all = fresh();
+        for (int i = 0; i < 10; i++) {
+            all.deed(10 * i, 10 * i + 9);
+            all.mend(i, 5, i);
+        }
+        for (int i = 0; i < 6; i++) {
+            all.person(95 - 10 * i);
+        }
+        due.is("15: six of ten", all.who(-1), 4 + 5 + 6 + 7 + 8 + 9);
+        for (int i = 0; i < 10; i++) {
+            due.is("15: of ten " + i, all.who(i), i < 4 ? NOT : 9 - i);
+        }
     }
 
     private static void stung() { // promise 16
@@ -585,6 +599,9 @@ public final class PromisesTest {
         due.is("18: two steps more", t.least(43, 45, 1), 4);
         due.is("18: what 2", t.least(0, 0, 2), BAD);
         due.is("18: what -1", t.least(0, 0, -1), BAD);
+        due.is("18: to the last cell", t.least(98, 99, 0), 1);
+        due.is("18: back from it", t.least(99, 90, 1), 9);
+        due.is("18: up", t.least(90, 80, 1), 1);
         due.is("18: from 100", t.least(100, 0, 0), BAD);
         due.is("18: to -1", t.least(0, -1, 0), BAD);
     }
@@ -598,6 +615,8 @@ public final class PromisesTest {
         due.is("19: nothing in it", t.set(9, 0, 0), 0);
         due.is("19: stings nowhere", t.set(9, 0, 1), 0);
         due.is("19: far", t.set(9, 99, 0), NOT);
+        due.is("19: to another column", t.set(2307, 10, 0), 11);
+        due.is("19: from and to the first cell", t.set(0, 9, 0), 1);
         t.person(0);
         t.hive(55);
         t.mend(0, 1, 9);
@@ -635,6 +654,16 @@ public final class PromisesTest {
         due.is("20: stung 2", t.tries(0, 0, 0), 100);
         Due.lay(t, 0, BYTES, 4, -1, 1);
         due.is("20: y -1", t.tries(0, 0, 0), 100);
+        Due.lay(t, 0, BYTES, 4, 10, 1);
+        due.is("20: y 10", t.tries(0, 0, 0), 100);
+        long[] whole = new long[60];
+        Arrays.fill(whole, 4);
+        for (int i = 2; i < 60; i += 3) {
+            whole[i] = 1;
+        }
+        whole[58] = 6;
+        Due.lay(t, 0, BYTES, whole);
+        due.is("20: a whole row", t.tries(0, 0, 1), 20);
         due.is("20: what 3", t.tries(0, 0, 3), BAD);
         due.is("20: what -1", t.tries(0, 0, -1), BAD);
         due.is("20: hive 1", t.tries(0, 1, 0), BAD);
@@ -722,6 +751,11 @@ public final class PromisesTest {
         due.is("24: 10", t.from(0, 10), 6);
         due.is("24: 20", t.from(0, 20), 6);
         due.is("24: 21", t.from(0, 21), 0);
+        due.is("24: 1", t.from(0, 1), 7);
+        due.is("24: 99 of 20", t.from(0, 99), 0);
+        t.mend(0, 0, 99);
+        due.is("24: 99", t.from(0, 99), 2);
+        t.mend(0, 0, 20);
         due.is("24: 0", t.from(0, 0), BAD);
         due.is("24: 100", t.from(0, 100), BAD);
         due.is("24: nobody", t.from(1, 1), BAD);
@@ -755,10 +789,41 @@ public final class PromisesTest {
         Due.tell(t, "d=1?0;a");
         due.is("26: each month from now, with its own d", t.drawn(5, 404, 1), 8);
         due.is("26: it changes nothing", t.of(0, 1), 99);
+        due.is("26: one day", t.drawn(5, 101, 0), 2);
+        due.is("26: most days", t.drawn(5, 3030, 1), 60);
+        askDraws();
         int[][] bad = {{0, 0}, {1, 0}, {100, 0}, {3101, 0}, {131, 0}, {-101, 0}, {101, 2}, {101, -1}, {MAX, 0}, {MIN, 0}};
         for (int[] r : bad) {
             due.is("26: drawn(1, " + r[0] + ", " + r[1] + ")", t.drawn(1, r[0], r[1]), BAD);
         }
+    }
+
+    /** A hive that stings in its own cell alone, in each cell in turn: one of them has each draw. */
+    private static void askDraws() {
+        int z = 77;
+        for (int d = 1; d <= 30; d++) {
+            z = z * 1103515245 + 12345;
+        }
+        int cell = (z >>> 6) % 10 + 10 * ((z >>> 12) % 10);
+        TemperInHive t = oneAndHive(0, cell, 1);
+        Due.tell(t, "1");
+        int till = t.drawn(77, 129, 0);
+        due.is("26: the 30th draw", t.drawn(77, 130, 0), till + 1);
+        due.is("26: as days of months", t.drawn(77, 610, 0) - t.drawn(77, 3001, 0), sixtyDraws(cell));
+        t.mend(0, 2, (cell + 1) % 100);
+        till = t.drawn(77, 129, 0);
+        due.is("26: not beside it", t.drawn(77, 130, 0), till);
+    }
+
+    /** How many of the draws 30 to 59 go to a cell. */
+    private static int sixtyDraws(int cell) {
+        int z = 77;
+        int many = 0;
+        for (int d = 0; d < 60; d++) {
+            z = z * 1103515245 + 12345;
+            many += d >= 30 && (z >>> 6) % 10 == cell % 10 && (z >>> 12) % 10 == cell / 10 ? 1 : 0;
+        }
+        return many;
     }
 
     private static void takes() { // promise 27
@@ -771,6 +836,14 @@ public final class PromisesTest {
         due.is("27: all", t.takes(0, 41), 41);
         due.is("27: none left", t.of(0, 1), 0);
         due.is("27: led", t.led(0), 50);
+        TemperInHive more = mended();
+        more.mend(11, 1, 99);
+        more.mend(1, 0, 0);
+        due.is("27: 99 of another", more.takes(11, 99), 99);
+        due.is("27: none left of his", more.of(11, 1), 0);
+        due.is("27: the first one's stays", more.of(0, 1), 25);
+        more.mend(10, 1, 5);
+        due.is("27: of the first in the second", more.takes(10, 5), 25);
         int[][] bad = {{0, 0}, {0, 100}, {0, -1}, {1, 1}, {10, 1}, {9, 1}, {8, 1}, {-1, 1}, {-10, 1}, {MIN, 1}, {MAX, 1}};
         for (int[] r : bad) {
             due.is("27: takes(" + r[0] + ", " + r[1] + ")", t.takes(r[0], r[1]), BAD);
@@ -788,6 +861,12 @@ public final class PromisesTest {
         due.is("28: all", t.puts(0, 11), 11);
         due.is("28: none left", t.of(0, 0), 0);
         due.is("28: led", t.led(1), 60);
+        TemperInHive more = mended();
+        more.mend(1, 0, 99);
+        due.is("28: 99 of another", more.puts(11, 99), 99);
+        due.is("28: none left on him", more.of(1, 0), 0);
+        due.is("28: of the first in the second", more.puts(10, 5), 5);
+        due.is("28: the second's stays", more.of(11, 1), 99);
         int[][] bad = {{0, 0}, {0, 100}, {1, 1}, {10, 1}, {9, 1}, {-1, 1}, {-10, 1}, {MIN, 1}, {MAX, 1}};
         for (int[] r : bad) {
             due.is("28: puts(" + r[0] + ", " + r[1] + ")", t.puts(r[0], r[1]), BAD);
@@ -914,6 +993,23 @@ public final class PromisesTest {
         due.is("33: a new one", t.image(), 3);
         t.day();
         due.is("34: the new one", t.back(), 3);
+        TemperInHive full = fresh();
+        for (int i = 0; i < 6; i++) {
+            full.person(i);
+        }
+        for (int i = 0; i < 30; i++) {
+            full.hive(i); // five come
+            full.mend(10 * (i / 6) + i % 6, 1, 0);
+        }
+        for (int i = 0; i < 30; i++) {
+            full.mend(10 * (i / 6) + i % 6, 1, 50 + i);
+        }
+        full.image();
+        full.day();
+        full.back();
+        for (int i = 0; i < 30; i++) {
+            due.is("34: IN " + i, full.of(10 * (i / 6) + i % 6, 1), 50 + i);
+        }
     }
 
     private static void undoAndRedo() { // promises 35, 36
@@ -966,6 +1062,22 @@ public final class PromisesTest {
         }
         due.is("36: no more", t.redo(), STATE);
         due.is("36: the latest", t.of(0, 9), 74);
+        TemperInHive many = fresh();
+        for (int i = 0; i < 5; i++) {
+            many.person(0);
+            many.hive(0);
+        }
+        for (int i = 0; i < 50; i++) {
+            many.mend(10 * (i % 5) + i / 10, 1, i + 1);
+        }
+        for (int i = 49; i >= 10; i--) {
+            many.undo();
+            due.is("35: number " + i, many.of(10 * (i % 5) + i / 10, 1), i % 10 < 5 ? 0 : i - 4);
+        }
+        for (int i = 10; i < 50; i++) {
+            many.redo();
+            due.is("36: number " + i, many.of(10 * (i % 5) + i / 10, 1), i + 1);
+        }
     }
 
     private static void body() { // promise 37
@@ -1060,6 +1172,8 @@ public final class PromisesTest {
         for (int sort = 0; sort < 5; sort++) {
             due.is("41: 60 of sort " + sort, t.row(0, sort, 60), 1);
             due.is("41: 0 at first", t.element(0, 59), 0);
+            due.is("41: 0 at first, at the front", t.element(0, 0), 0);
+            t.put(0, 0, 1);
             due.is("41: no 60th", t.put(0, 60, 1), -13);
             t.put(0, 59, 1);
         }
