@@ -85,6 +85,8 @@ public final class PromisesTest {
             due.is("1: led(" + what + ")", t.led(what), 0);
         }
         due.is("1: no image", t.back(), STATE);
+        due.is("1: nothing to undo", t.undo(), STATE);
+        due.is("1: nothing to do again", t.redo(), STATE);
     }
 
     private static void person() { // promise 2
@@ -844,6 +846,7 @@ public final class PromisesTest {
         due.is("27: the first one's stays", more.of(0, 1), 25);
         more.mend(10, 1, 5);
         due.is("27: of the first in the second", more.takes(10, 5), 25);
+        due.is("27: it came from the second", more.of(10, 1), 0);
         int[][] bad = {{0, 0}, {0, 100}, {0, -1}, {1, 1}, {10, 1}, {9, 1}, {8, 1}, {-1, 1}, {-10, 1}, {MIN, 1}, {MAX, 1}};
         for (int[] r : bad) {
             due.is("27: takes(" + r[0] + ", " + r[1] + ")", t.takes(r[0], r[1]), BAD);
