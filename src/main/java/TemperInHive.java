@@ -63,6 +63,8 @@ public final class TemperInHive {
     private Code draft = new Code();
     private final int[] names = new int[NAMES];
     private final Stock thought = new Stock();
+    // How far each hive stings on each day of a month, by days.
+    private final int[] monthFar = new int[MOST_MONTH_DAYS * MOST_HIVES];
     private final Ways ways = new Ways();
     private final Pairing pairing = new Pairing();
     private final Round rounds = new Round();
@@ -293,7 +295,7 @@ public final class TemperInHive {
         if (!isCell(xy)) {
             return BAD;
         }
-        return land.stingersAt(land.stock, xy);
+        return land.stingersAt(xy);
     }
 
     public int way(int from, int to) {
@@ -491,28 +493,39 @@ public final class TemperInHive {
         if (what < 0 || what > 1) {
             return BAD;
         }
+        foreseeMonth(days);
         int z = seed;
         int stings = 0;
         int stungDays = 0;
         for (int month = 0; month < months; month++) {
-            // Each month is drawn from now: only the draws go on from month to month.
-            thought.copyFrom(land.stock);
             for (int d = 0; d < days; d++) {
                 z = z * 1103515245 + 12345;
-                int cell = (z >>> 6) % SIDE + SIDE * ((z >>> 12) % SIDE);
-                int today = Integer.bitCount(land.stingersAt(thought, cell));
+                int today = stingsOn(d, (z >>> 6) % SIDE + SIDE * ((z >>> 12) % SIDE));
                 stings += today;
                 stungDays += today > 0 ? 1 : 0;
-                passDayEverywhere(thought, d);
             }
         }
         return what == 0 ? stings : stungDays;
     }
 
-    private void passDayEverywhere(Stock stock, int d) {
-        for (int hive = 0; hive < land.hives; hive++) {
-            passDay(stock, hive, d);
+    /** Each month is drawn from now, so that all are alike but for their draws, and one need be thought out. */
+    private void foreseeMonth(int days) {
+        thought.copyFrom(land.stock);
+        for (int d = 0; d < days; d++) {
+            for (int hive = 0; hive < land.hives; hive++) {
+                monthFar[d * MOST_HIVES + hive] = land.farOf(thought.allIn(hive));
+                passDay(thought, hive, d);
+            }
         }
+    }
+
+    /** How many hives sting in a cell on a day of the month that was foreseen. */
+    private int stingsOn(int d, int cell) {
+        int many = 0;
+        for (int hive = 0; hive < land.hives; hive++) {
+            many += apart(cell, land.cell[hive]) <= monthFar[d * MOST_HIVES + hive] ? 1 : 0;
+        }
+        return many;
     }
 
     // ---- in deed
@@ -550,7 +563,9 @@ public final class TemperInHive {
     }
 
     public int day() {
-        passDayEverywhere(land.stock, 0);
+        for (int hive = 0; hive < land.hives; hive++) {
+            passDay(land.stock, hive, 0);
+        }
         ledger[LED_DAYS]++;
         return land.stock.allInAll();
     }
@@ -915,10 +930,10 @@ public final class TemperInHive {
             return amount <= 0 || reach <= 0 ? Ways.NOWHERE : amount / reach;
         }
 
-        int stingersAt(Stock inThem, int xy) {
+        int stingersAt(int xy) {
             int bits = 0;
             for (int hive = 0; hive < hives; hive++) {
-                if (apart(xy, cell[hive]) <= farOf(inThem.allIn(hive))) {
+                if (apart(xy, cell[hive]) <= farOf(stock.allIn(hive))) {
                     bits |= 1 << hive;
                 }
             }
