@@ -61,6 +61,17 @@ public final class EdgesOfDeedsTest {
             t.mend(0, 0, 98);
             s.is("1 of 1, ON 99", t.takes(0, 1), 99);
         });
+        s.test(27, "STATE: less is in it,", t -> {
+            land(t, 0, 40);
+            s.is("41 of 40, on nobody anything", t.takes(0, 41), STATE);
+            s.is("99 of 40", t.takes(0, 99), STATE);
+            t.mend(1, 1, 41);
+            s.is("all in it are 81", t.takes(0, 41), STATE);
+            t.mend(10, 1, 41);
+            s.is("in both are 81", t.takes(0, 41), STATE);
+            s.is("40 of 40", t.takes(0, 40), 40);
+            s.is("1 of 0", t.takes(0, 1), STATE);
+        });
         s.test(27, "IN DEED: TAKE v of one from a HIVE (ON more)", t -> {
             for (int hive = 0; hive < 5; hive++) {
                 t.hive(hive);
@@ -70,6 +81,14 @@ public final class EdgesOfDeedsTest {
             }
             t.mend(45, 1, 7);
             s.is("the last of the last", t.takes(45, 7), 12);
+            for (int hive = 0; hive < 5; hive++) {
+                t.mend(10 * hive, 1, 9 - hive);
+            }
+            for (int hive = 4; hive >= 0; hive--) {
+                t.mend(0, 0, 0);
+                s.is("all of the first from " + hive, t.takes(10 * hive, 9 - hive), 9 - hive);
+                s.is("IN of it", t.of(10 * hive, 1), 0);
+            }
             s.is("takes(46, 1)", t.takes(46, 1), BAD);
             s.is("takes(50, 1)", t.takes(50, 1), BAD);
             s.is("takes(6, 1)", t.takes(6, 1), BAD);
@@ -106,6 +125,13 @@ public final class EdgesOfDeedsTest {
             t.mend(0, 1, 98);
             s.is("1 of 1, IN 99", t.puts(0, 1), 99);
         });
+        s.test(28, "STATE: less is on him,", t -> {
+            land(t, 40, 0);
+            s.is("41 of 40 in an empty one", t.puts(0, 41), STATE);
+            s.is("99 of 40", t.puts(0, 99), STATE);
+            s.is("40 of 40", t.puts(0, 40), 40);
+            s.is("1 of 0", t.puts(0, 1), STATE);
+        });
         s.test(28, "PUT v in (ON less)", t -> {
             for (int hive = 0; hive < 5; hive++) {
                 t.hive(hive);
@@ -115,6 +141,14 @@ public final class EdgesOfDeedsTest {
             }
             s.is("the last in the last", t.puts(45, 5), 5);
             s.is("ON", t.of(5, 0), 0);
+            for (int hive = 0; hive < 5; hive++) {
+                t.mend(0, 0, 9);
+                s.is("of the first in " + hive, t.puts(10 * hive, 9 - hive), 9 - hive);
+            }
+            for (int hive = 0; hive < 5; hive++) {
+                s.is("IN of the first in " + hive, t.of(10 * hive, 1), 9 - hive);
+                s.is("IN of the last", t.of(10 * hive + 5, 1), hive == 4 ? 5 : 0);
+            }
             s.is("puts(46, 1)", t.puts(46, 1), BAD);
             s.is("puts(50, 1)", t.puts(50, 1), BAD);
             s.is("puts(6, 1)", t.puts(6, 1), BAD);
@@ -422,6 +456,24 @@ public final class EdgesOfDeedsTest {
                 s.is("of(0, " + what + ") again", t.of(0, what), was[what] + 1);
             }
         });
+        s.test(35, "all numbers of mend()", t -> {
+            int[][] changes = {{5, 0}, {0, 0}, {45, 1}, {40, 1}, {5, 1}, {4, 2}, {0, 2}, {9, 3}, {0, 3}, {9, 4}, {0, 4}, {9, 5}, {0, 5},
+                {0, 6}, {0, 7}, {0, 8}, {0, 9}};
+            for (int i = 0; i < 10; i++) {
+                t.deed(20, 40);
+                if (i < 6) {
+                    t.person(10 + i);
+                }
+                if (i < 5) {
+                    t.hive(i);
+                }
+            }
+            int[] was = new int[changes.length];
+            for (int i = 0; i < changes.length; i++) {
+                was[i] = t.mend(changes[i][0], changes[i][1], i % 3 == 0 ? 3 : 2);
+            }
+            askNumbers(t, changes, -1, was);
+        });
         s.test(35, "deeds are none (ON, IN by them, too).", t -> {
             t.person(50);
             t.person(50);
@@ -444,6 +496,24 @@ public final class EdgesOfDeedsTest {
             s.is("ON as it was ahead of the change", t.of(0, 0), 45);
             s.is("IN as by the deed", t.of(0, 1), 19);
         });
+    }
+
+    /** Undoes all changes but the oldest few, and does them again: each number as it was, and as it became. */
+    private static void askNumbers(TemperInHive t, int[][] changes, int gone, int[] was) {
+        int[] became = new int[changes.length];
+        for (int i = 0; i < changes.length; i++) {
+            became[i] = t.of(changes[i][0], changes[i][1]);
+        }
+        for (int i = changes.length - 1; i > gone; i--) {
+            s.is("of(" + changes[i][0] + ", " + changes[i][1] + ") stands", t.of(changes[i][0], changes[i][1]), became[i]);
+            s.is("undo()", t.undo() >= 0 ? 1 : 0, 1);
+            s.is("of(" + changes[i][0] + ", " + changes[i][1] + ") as it was", t.of(changes[i][0], changes[i][1]), was[i]);
+        }
+        for (int i = gone + 1; i < changes.length; i++) {
+            s.is("redo()", t.redo() >= 0 ? 1 : 0, 1);
+            s.is("of(" + changes[i][0] + ", " + changes[i][1] + ") again", t.of(changes[i][0], changes[i][1]), became[i]);
+        }
+        s.is("no more", t.redo(), STATE);
     }
 
     private static void redo() {
@@ -508,6 +578,25 @@ public final class EdgesOfDeedsTest {
             }
             s.is("no more", t.redo(), STATE);
             s.is("LOSS at last", t.of(0, 9), 61);
+        });
+        s.test(35, "the latest first, and DONE AGAIN (as long as no other came behind); 40 at most are kept;", t -> {
+            int[][] changes = new int[44][];
+            int[] was = new int[44];
+            for (int i = 0; i < 10; i++) {
+                t.deed(0, 50);
+            }
+            for (int i = 0; i < 5; i++) {
+                t.person(10 + i);
+                t.hive(20 + i);
+            }
+            for (int i = 0; i < 44; i++) {
+                changes[i] = i < 5 ? new int[] {i, 0} : i < 10 ? new int[] {i - 5, 2} : i < 24 ? new int[] {10 * (i % 5) + i / 5 - 2, 1}
+                    : i < 34 ? new int[] {i - 24, 4} : new int[] {i - 34, 5};
+                was[i] = t.mend(changes[i][0], changes[i][1], 51 + i);
+            }
+            s.is("44 are 40", t.count(4), 40);
+            askNumbers(t, changes, 3, was);
+            s.is("the oldest ones stand", t.of(3, 0), 54);
         });
         s.test(36, "40 at most are kept;", t -> {
             for (int v = 1; v <= 40; v++) {

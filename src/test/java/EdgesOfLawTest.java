@@ -23,7 +23,7 @@ public final class EdgesOfLawTest {
         s.is("law() of " + text, Due.tell(new TemperInHive(), text), want);
     }
 
-    /** What a law makes of 50 of one, with 30 of another in the same hive, in season 2. */
+    /** What a law makes of 50 of one, with 30 of another in the same hive, in season 3. */
     private static void gives(String text, long want) {
         TemperInHive t = new TemperInHive();
         t.person(0);
@@ -32,7 +32,7 @@ public final class EdgesOfLawTest {
         t.hive(9);
         t.mend(10, 1, 50);
         t.mend(11, 1, 30);
-        t.mend(0, 6, 2);
+        t.mend(0, 6, 3);
         s.is("law() of " + text, Due.tell(t, text), 1);
         s.is("a day by " + text, t.later(10, 1), want);
     }
@@ -240,7 +240,7 @@ public final class EdgesOfLawTest {
         s.test(9, "NAMES: a IN of one in a HIVE, n all that is in it, s SEASON, o how many have some in it, h the HIVE,", t -> {
             gives("a", 50);
             gives("n", 80);
-            gives("s", 2);
+            gives("s", 3);
             gives("o", 2);
             gives("h", 1);
             gives("d", 0);
@@ -310,6 +310,9 @@ public final class EdgesOfLawTest {
                 told(seven, -106);
                 told(repeated("", sign, 7), -106);
                 told("1+" + seven, -108);
+                told("1?" + seven, -108);
+                told("1;" + seven, -108);
+                told("1;1?" + seven, -110);
                 told(six + "*" + six + "?" + six + ";" + six, 1);
                 told(six + "+" + seven, -100 - six.length() - 7);
                 told("(" + repeated("", sign, 5) + "1" + repeated("", close, 5) + ")", 1);

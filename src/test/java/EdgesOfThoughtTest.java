@@ -188,6 +188,16 @@ public final class EdgesOfThoughtTest {
             s.is("one of it", t.can(0, 1), 4 + 8);
             t.hive(0);
             s.is("another takes all", t.can(0, 1), 15);
+            t.hive(0);
+            t.hive(0);
+            t.hive(0);
+            t.mend(0, 0, 0);
+            for (int hive = 0; hive < 4; hive++) {
+                t.mend(10 * hive, 1, 0);
+            }
+            s.is("nothing in five", t.can(0, 1), 1);
+            t.mend(40, 1, 98);
+            s.is("98 in the fifth", t.can(0, 1), 1 + 2 + 8);
         });
         s.test(12, "CAN: now (what 0), by any HIVE (1). BAD.", t -> {
             s.is("nobody", t.can(0, 0), BAD);
@@ -669,6 +679,10 @@ public final class EdgesOfThoughtTest {
             s.is("v 17 by REACH 1 leaves a corner", t.set(0, 17, 0), 99);
             s.is("and STINGS in all others", t.set(0, 17, 1), 99);
             s.is("v 18 by REACH 1 leaves none", t.set(0, 18, 0), NOT);
+            s.is("v 16 by REACH 1 leaves the last CELL", t.set(9999, 16, 0), 1);
+            s.is("and STINGS in all others", t.set(9999, 16, 1), 99);
+            s.is("v 17 by REACH 1 does, from the first alone", t.set(9999, 17, 0), 0);
+            s.is("in as many", t.set(9999, 17, 1), 99);
         });
         s.test(19, "and STINGS in most CELLS (of like ones the least): which; in how many; NOT: none does, or there is no WAY.", t -> {
             s.is("v 9", t.set(9, 9, 1), 1);

@@ -2,6 +2,7 @@ import java.io.IOException;
 import java.nio.file.Files;
 import java.nio.file.Path;
 import java.util.ArrayList;
+import java.util.Arrays;
 import java.util.List;
 import java.util.regex.Matcher;
 import java.util.regex.Pattern;
@@ -42,13 +43,13 @@ public final class SentencesTest {
         boolean[] has = new boolean[text.length()];
         for (String words : quoted) {
             for (int at = text.indexOf(words); at >= 0; at = text.indexOf(words, at + 1)) {
-                java.util.Arrays.fill(has, at, at + words.length(), true);
+                Arrays.fill(has, at, at + words.length(), true);
             }
         }
         StringBuilder left = new StringBuilder();
         for (int i = 0; i < has.length; i++) {
             left.append(has[i] ? '~' : text.charAt(i));
         }
-        return left.toString().replaceAll("~+", " ~ ").replaceAll("[ ~.,;:]+$|^[ ~.,;:]+", "").replaceAll("[ .,;:]*~[ .,;:~]*", " ~ ");
+        return left.toString().replaceAll("[ .,;:~]*~[ .,;:~]*", " ~ ").replaceAll("^[ ~]+|[ ~]+$", "");
     }
 }
